@@ -351,7 +351,7 @@ public final class RecordNiches {
             Text text = holding.texts[shape];
             depth = 0;
             for (int place = 0; place < text.count; place++) {
-                int taken = take(holding, shape, place);
+                int taken = take(holding, shape, place, text.signs[place]);
                 if (taken == REFUSED) {
                     firstFault = place;
                     return;
@@ -367,19 +367,17 @@ public final class RecordNiches {
         }
 
         /** Whether the sign at a place ends the TERM begun last, goes on with it or begins one in it, or is REFUSED. */
-        private int take(Holding holding, int shape, int place) {
-            if (depth == 0) return place == 0 ? begin(holding, shape, place) : REFUSED;
-            int sign = holding.signAt(shape, place);
+        private int take(Holding holding, int shape, int place, int sign) {
+            if (depth == 0) return place == 0 ? begin(holding, shape, place, sign) : REFUSED;
             int opener = openers[depth - 1];
             if (opener == 'e') return sign >= '2' && sign <= '9' ? ENDED : REFUSED;
-            if (isLetter(opener)) return begin(holding, shape, place);
+            if (isLetter(opener)) return begin(holding, shape, place, sign);
             if (sign == (opener == '(' ? ')' : ']')) return held[depth - 1] > 0 ? ENDED : REFUSED;
-            return held[depth - 1] < MOST_TERMS ? begin(holding, shape, place) : REFUSED;
+            return held[depth - 1] < MOST_TERMS ? begin(holding, shape, place, sign) : REFUSED;
         }
 
-        private int begin(Holding holding, int shape, int place) {
+        private int begin(Holding holding, int shape, int place, int sign) {
             if (depth >= MOST_SIGNS) return REFUSED;
-            int sign = holding.signAt(shape, place);
             openers[depth] = sign;
             begun[depth] = place;
             held[depth] = 0;
@@ -399,7 +397,7 @@ public final class RecordNiches {
                     return GOES_ON;
                 default:
                     if (!isLetter(sign) || sign - 'A' >= shape) return REFUSED;
-                    return holding.isOpen(sign - 'A') ? GOES_ON : ENDED;
+                    return holding.texts[sign - 'A'].holds('x') ? GOES_ON : ENDED;
             }
         }
 
@@ -468,12 +466,7 @@ public final class RecordNiches {
         void reset(Node around) {
             count = 0;
             parent = around;
-            number = 0;
-            offset = 0;
-            base = 0;
             mark = NONE;
-            manner = ALONE;
-            host = NONE;
             if (around == null || around.count >= MOST_TERMS) return;
             number = around.count;
             around.terms[number] = this;
@@ -597,7 +590,7 @@ public final class RecordNiches {
                 depth++;
                 return true;
             }
-            return isLeafMade(node, sign, holding.signAt(shape, place + 1));
+            return makeLeaf(node, sign, holding.signAt(shape, place + 1));
         }
 
         private boolean goThroughLetters(Holding holding) {
@@ -617,7 +610,8 @@ public final class RecordNiches {
             return false;
         }
 
-        private static boolean isLeafMade(Node node, int sign, int next) {
+        /** Makes the TERM that holds no others and begins with a sign; false: no TERM begins so. */
+        private static boolean makeLeaf(Node node, int sign, int next) {
             switch (sign) {
                 case '0':
                     node.be(NOTHING, 0);

@@ -399,6 +399,9 @@ final class PromisesTest {
         due.is("too large as told", x.layout(5, -1, SIZE), STATE);
         x.way(1);
         due.is("not too large packed", x.layout(5, -1, SIZE), 64);
+        RecordNiches z = shapes("(111111)", "(AAAAA)", "(BB(1111))", "(BB(11111))");
+        due.is("64 bytes", z.layout(2, -1, SIZE), 64);
+        due.is("65 bytes", z.layout(3, -1, SIZE), STATE);
 
         RecordNiches y = shapes("(00000)", "(AA)", "(BB0)", "(CCC0(0000)(00000))", "(D0)");
         due.is("13", y.layout(1, -1, PARTS), 13);
@@ -669,6 +672,10 @@ final class PromisesTest {
         list(x, 2);
         x.write(3, -1, 24);
         memoryIs("what is left", x, 24, 4, 255);
+        tell(x, 6, "[(14b)0]");
+        list(x, 1);
+        due.is("a PATTERN alone", x.write(6, -1, 48), 12);
+        memoryIs("a PATTERN alone", x, 48, 0, 0, 0, 0, 0, 0, 0, 0, 2, 0, 0, 0, 255);
         list(x, 5);
         due.is("of one TERM has its number too", x.write(4, -1, 28), STATE);
         list(x, 0, 5);
@@ -716,11 +723,17 @@ final class PromisesTest {
         due.is("no such TERM", x.write(7, -1, 40), STATE);
         list(x, 4294967295L, 0);
         due.is("no such TERM", x.write(7, -1, 40), STATE);
+        list(x, 2);
+        due.is("no such TERM, without a VALUE", x.write(7, -1, 40), STATE);
         list(x, 0);
         due.is("a number without its VALUE", x.write(7, -1, 40), STATE);
         memoryIs("nothing changed", x, 40, 3, 3, 3, 3);
         tell(x, 0, "(4");
         due.is("NO", x.write(0, -1, 0), NO);
+        RecordNiches y = shapes("(111111)", "(AAAAAA)", "(BAAAA)", "(C1)");
+        list(y, new long[60]);
+        due.is("60 numbers", y.write(2, -1, 0), 60);
+        due.is("60 where 61 are asked for", y.write(3, -1, 0), STATE);
     }
 
     private static void read() {
@@ -836,7 +849,8 @@ final class PromisesTest {
     private static void poke() {
         RecordNiches x = new RecordNiches();
         due.is("the first", x.poke(0, 255), 0);
-        due.is("it was", x.poke(0, 1), 255);
+        due.is("it was", x.poke(0, 0), 255);
+        due.is("it was", x.poke(0, 1), 0);
         due.is("the last", x.poke(95, 7), 0);
         due.is("the last was", x.peek(95), 7);
         due.is("below", x.poke(-1, 0), OUTSIDE);
@@ -892,6 +906,7 @@ final class PromisesTest {
         for (int times = 0; times < 2; times++) {
             due.is("restore", x.restore(1), 1);
             due.is("signs", x.told(10), 4);
+            due.is("a sign", x.told(100), '(');
             due.is("a sign", x.told(102), 'x');
             due.is("OPEN", x.told(20), 1);
             due.is("signs", x.told(11), 1);

@@ -2,6 +2,7 @@ import java.util.Random;
 
 /** Runs of up to 512 random calls (the seeds are fixed), held against the Model. */
 final class RandomRunsTest {
+    private static final int TOP = 3;
     private static final int[] ODD = {Integer.MIN_VALUE, -4, -2, 8, 97, 96, 128, Integer.MAX_VALUE};
 
     private final Due due;
@@ -38,7 +39,8 @@ final class RandomRunsTest {
     }
 
     private void go() {
-        for (int s = 0; s < 4 + random.nextInt(5) && s < 8; s++) tell(s);
+        int shapes = 4 + random.nextInt(5);
+        for (int s = 0; s < shapes; s++) tell(s);
         while (calls < 430) {
             switch (random.nextInt(14)) {
                 case 0 -> retell();
@@ -58,6 +60,7 @@ final class RandomRunsTest {
 
     private String term(int shape, int depth) {
         int n = random.nextInt(depth <= 0 ? 60 : 100);
+        if (depth == TOP && chance(80)) n = 44 + random.nextInt(56);
         if (n < 6) return "0";
         if (n < 20) return "1";
         if (n < 26) return "2";
@@ -79,8 +82,22 @@ final class RandomRunsTest {
         return model.isOpen(lesser) ? l + term(shape, depth - 1) : l;
     }
 
+    /** A text that leads to many PARTS and letters, a great SIZE, many numbers. */
+    private String letters(int shape) {
+        char opener = chance(80) ? '(' : '[';
+        StringBuilder s = new StringBuilder().append(opener);
+        int parts = 2 + random.nextInt(5);
+        int lesser = random.nextInt(shape);
+        for (int i = 0; i < parts; i++) {
+            if (chance(15)) lesser = random.nextInt(shape);
+            s.append((char) ('A' + lesser));
+            if (model.isOpen(lesser)) s.append(chance(30) ? letter(shape, 1) : term(shape, 1));
+        }
+        return s.append(opener == '(' ? ')' : ']').toString();
+    }
+
     private String spoilt(String text) {
-        if (text.isEmpty() || !chance(8)) return text;
+        if (text.isEmpty() || !chance(5)) return text;
         int p = random.nextInt(text.length());
         return switch (random.nextInt(3)) {
             case 0 -> text.substring(0, p);
@@ -90,8 +107,8 @@ final class RandomRunsTest {
     }
 
     private void tell(int s) {
-        String text = term(s, 3);
-        for (int i = 0; i < 30 && text.length() > 30; i++) text = term(s, 3);
+        String text = s > 0 && chance(15) ? letters(s) : term(s, TOP);
+        for (int i = 0; i < 30 && text.length() > 30; i++) text = term(s, TOP);
         if (text.length() > 45) text = text.substring(0, 41);
         for (char c : spoilt(text).toCharArray()) {
             if (calls < 480) same("say(" + s + ", " + c + ")", x.say(s, c), model.say(s, c));
