@@ -441,6 +441,10 @@ final class PromisesTest {
         due.is("79 and x's", y.layout(1, 4, SIZE), 1);
         due.is("too many", y.layout(2, 4, SIZE), STATE);
         due.is("far too many", y.layout(3, 4, SIZE), STATE);
+        // an A and its x are 2, a B is 80
+        RecordNiches z = shapes("x", "A".repeat(39) + "x", "B".repeat(6) + "A".repeat(9) + "x", "C0", "0", "CE");
+        due.is("500 for one TERM", z.layout(3, -1, PARTS), 1);
+        due.is("501 for one TERM", z.layout(5, -1, PARTS), STATE);
     }
 
     // ---- 7 to 11
