@@ -43,42 +43,22 @@ final class PromisesTest {
 
     // ---- helpers
 
-    private static void tell(RecordNiches x, int shape, String text) {
-        x.wipe(shape);
-        for (char c : text.toCharArray()) x.say(shape, c);
-    }
-
-    private static RecordNiches shapes(String... texts) {
-        RecordNiches x = new RecordNiches();
-        for (int s = 0; s < texts.length; s++) tell(x, s, texts[s]);
-        return x;
-    }
-
-    private static void list(RecordNiches x, long... numbers) {
-        x.drop();
-        for (long n : numbers) x.give(n);
-    }
-
-    private static void fill(RecordNiches x, int v) {
-        for (int p = 0; p < 96; p++) x.poke(p, v);
-    }
-
-    private static void memoryIs(String what, RecordNiches x, int place, int... bytes) {
+    private static void memoryIs(String what, Watched x, int place, int... bytes) {
         for (int i = 0; i < bytes.length; i++) due.is(what + ": peek(" + (place + i) + ")", x.peek(place + i), bytes[i]);
     }
 
-    private static void listIs(String what, RecordNiches x, long... numbers) {
+    private static void listIs(String what, Watched x, long... numbers) {
         due.is(what + ": given(-1)", x.given(-1), numbers.length);
         for (int i = 0; i < numbers.length; i++) due.is(what + ": given(" + i + ")", x.given(i), numbers[i]);
     }
 
     private static void faultIs(String text, int want) {
-        due.is("fault of " + text, shapes(text).fault(0), want);
+        due.is("fault of " + text, Watched.shapes(text).fault(0), want);
     }
 
     /** SIZE, ALIGN, and the GAP (nothing more: none) of a text by a WAY. */
     private static void layoutIs(int way, String text, int size, int align, int... gap) {
-        RecordNiches x = shapes(text);
+        Watched x = Watched.shapes(text);
         x.way(way);
         String what = "layout by " + way + " of " + text + ", ";
         due.is(what + "SIZE", x.layout(0, -1, SIZE), size);
@@ -87,7 +67,7 @@ final class PromisesTest {
     }
 
     private static void offsetsAre(int way, String text, int... offsets) {
-        RecordNiches x = shapes(text);
+        Watched x = Watched.shapes(text);
         x.way(way);
         for (int i = 0; i < offsets.length; i++) due.is("offset by " + way + " of " + i + " in " + text, x.term(0, -1, i, 0), offsets[i]);
         due.is("behind the last of " + text, x.term(0, -1, offsets.length, 0), NONE);
@@ -96,12 +76,12 @@ final class PromisesTest {
     // ---- 1 to 5
 
     private static void aNewObject() {
-        RecordNiches other = shapes("(x1)");
+        Watched other = Watched.shapes("(x1)");
         other.poke(3, 7);
         other.give(5);
         other.way(1);
         other.image(0);
-        RecordNiches x = new RecordNiches();
+        Watched x = new Watched();
         due.is("told(0)", x.told(0), 0);
         due.is("told(1)", x.told(1), 0);
         for (int s = 0; s < 8; s++) {
@@ -122,7 +102,7 @@ final class PromisesTest {
     }
 
     private static void say() {
-        RecordNiches x = new RecordNiches();
+        Watched x = new Watched();
         due.is("say 33", x.say(0, 33), 1);
         due.is("say 126", x.say(0, 126), 2);
         due.is("say of another SHAPE", x.say(7, 'b'), 1);
@@ -141,7 +121,7 @@ final class PromisesTest {
     }
 
     private static void wipe() {
-        RecordNiches x = shapes("(12)", "b");
+        Watched x = Watched.shapes("(12)", "b");
         due.is("wipe", x.wipe(0), 4);
         due.is("gone", x.told(10), 0);
         due.is("no sign there", x.told(100), OUTSIDE);
@@ -193,48 +173,48 @@ final class PromisesTest {
         faultIs("I", 0);
         faultIs("a", 0);
         faultIs("(".repeat(40), 40);
-        RecordNiches x = new RecordNiches();
+        Watched x = new Watched();
         due.is("fault(-1)", x.fault(-1), UNKNOWN);
         due.is("fault(8)", x.fault(8), UNKNOWN);
         due.is("fault(MIN)", x.fault(MIN), UNKNOWN);
     }
 
     private static void faultOfLetters() {
-        RecordNiches x = shapes("b", "[0x]", "A", "B", "B1", "BBA", "(A1B2BB4)", "(AAAAAAA)");
+        Watched x = Watched.shapes("b", "[0x]", "A", "B", "B1", "BBA", "(A1B2BB4)", "(AAAAAAA)");
         due.is("a letter", x.fault(2), NONE);
         due.is("more must come behind one that is OPEN", x.fault(3), 1);
         due.is("a TERM behind it", x.fault(4), NONE);
         due.is("one behind another", x.fault(5), NONE);
         due.is("in a RECORD", x.fault(6), NONE);
         due.is("seven", x.fault(7), 7);
-        tell(x, 2, "A1");
+        x.tell(2, "A1");
         due.is("a TERM behind one that is not OPEN", x.fault(2), 1);
-        tell(x, 2, "C");
+        x.tell(2, "C");
         due.is("its own letter", x.fault(2), 0);
-        tell(x, 2, "D");
+        x.tell(2, "D");
         due.is("a greater letter", x.fault(2), 0);
-        tell(x, 2, "B)");
+        x.tell(2, "B)");
         due.is("no TERM behind it", x.fault(2), 1);
-        tell(x, 2, "(B)");
+        x.tell(2, "(B)");
         due.is("no TERM behind it, in a RECORD", x.fault(2), 2);
-        tell(x, 2, "(11111B11)");
+        x.tell(2, "(11111B11)");
         due.is("one of six with its TERM", x.fault(2), 8);
-        tell(x, 2, "Be3");
+        x.tell(2, "Be3");
         due.is("a CHOICE behind it", x.fault(2), NONE);
-        tell(x, 2, "BBB");
+        x.tell(2, "BBB");
         due.is("more must come behind all", x.fault(2), 3);
-        tell(x, 2, "BBBx1");
+        x.tell(2, "BBBx1");
         due.is("all end with the last", x.fault(2), 4);
-        tell(x, 1, "x(");
+        x.tell(1, "x(");
         due.is("OPEN by its text, with a FAULT of its own", x.fault(4), NONE);
-        tell(x, 1, "(");
+        x.tell(1, "(");
         due.is("OPEN no more", x.fault(4), 1);
-        tell(x, 7, "GGGGGGG");
+        x.tell(7, "GGGGGGG");
         due.is("a SHAPE that has a FAULT may stand", x.fault(7), 1);
     }
 
     private static void way() {
-        RecordNiches x = shapes("(1412)");
+        Watched x = Watched.shapes("(1412)");
         due.is("at first", x.way(0), 0);
         due.is("WAY 1", x.way(1), 0);
         due.is("it was 1", x.way(1), 1);
@@ -258,7 +238,7 @@ final class PromisesTest {
         layoutIs(0, "e9", 1, 1, 0, 1, 9, 247);
         layoutIs(0, "p", 4, 4, 0, 4, 0, 1);
         for (String text : new String[] {"0", "4", "b", "e7", "p"}) {
-            due.is("PARTS of " + text, shapes(text).layout(0, -1, PARTS), 1);
+            due.is("PARTS of " + text, Watched.shapes(text).layout(0, -1, PARTS), 1);
         }
     }
 
@@ -278,7 +258,7 @@ final class PromisesTest {
         layoutIs(1, "(b(2b))", 6, 2, 2, 1, 2, 254);
         layoutIs(0, "(b(2b))", 6, 2, 0, 1, 2, 254);
         layoutIs(0, "(1(1(1b)))", 4, 1, 3, 1, 2, 254);
-        due.is("PARTS", shapes("(1(2b)[0e3])").layout(0, -1, PARTS), 8);
+        due.is("PARTS", Watched.shapes("(1(2b)[0e3])").layout(0, -1, PARTS), 8);
         offsetsAre(0, "(142e5)", 0, 4, 8, 10);
         offsetsAre(1, "(142e5)", 6, 0, 4, 7);
         offsetsAre(1, "(1212)", 4, 0, 5, 2);
@@ -329,7 +309,7 @@ final class PromisesTest {
     }
 
     private static void layoutOfLetters() {
-        RecordNiches x = shapes("[0x]", "b", "AB", "AAx", "(xAx)", "(D2)", "D2");
+        Watched x = Watched.shapes("[0x]", "b", "AB", "AAx", "(xAx)", "(D2)", "D2");
         due.is("a letter with its TERM", x.layout(2, -1, FIRST), 3);
         due.is("PARTS, no letter's", x.layout(2, -1, PARTS), 3);
         due.is("PARTS of x", x.layout(0, 1, PARTS), 3);
@@ -338,19 +318,19 @@ final class PromisesTest {
         due.is("a TERM behind a letter counts for each x", x.layout(4, 1, PARTS), 1 + 1 + 3);
         due.is("u that has letters", x.layout(4, 2, PARTS), 1 + 3 + 5);
         due.is("u as great as itself", x.layout(0, 0, SIZE), UNKNOWN);
-        tell(x, 5, "E2");
+        x.tell(5, "E2");
         due.is("x in what is behind a letter is that of the text it is in", x.layout(5, -1, SIZE), 2 + 4);
-        tell(x, 7, "(x[0x][1x])");
-        tell(x, 6, "(HxHHx)");
+        x.tell(7, "(x[0x][1x])");
+        x.tell(6, "(HxHHx)");
         due.is("a greater letter", x.layout(6, 1, SIZE), NO);
-        tell(x, 6, "A(xAx)");
+        x.tell(6, "A(xAx)");
         due.is("what stands behind a letter has the x of its own text", x.layout(6, 1, PARTS), 1 + 1 + (1 + 1 + 3));
         due.is("u may be greater", x.layout(0, 5, SIZE), 6);
         due.is("u may be greater", x.layout(0, 5, OFFSET), 2);
     }
 
     private static void layoutRefused() {
-        RecordNiches x = shapes("x", "1", "A1", "(", "b");
+        Watched x = Watched.shapes("x", "1", "A1", "(", "b");
         due.is("no such SHAPE", x.layout(-1, -1, 0), UNKNOWN);
         due.is("no such SHAPE", x.layout(8, -1, 0), UNKNOWN);
         due.is("no u for one that is OPEN", x.layout(0, -1, 0), UNKNOWN);
@@ -366,18 +346,18 @@ final class PromisesTest {
         due.is("a FAULT", x.layout(3, -1, 0), NO);
         due.is("a FAULT in u", x.layout(0, 3, 0), NO);
         due.is("an empty one", x.layout(5, -1, 0), NO);
-        tell(x, 1, "11");
+        x.tell(1, "11");
         due.is("u of no use is not asked", x.layout(2, -1, 0), 1);
-        tell(x, 0, "(x");
+        x.tell(0, "(x");
         due.is("a FAULT in a letter's", x.layout(2, -1, 0), NO);
-        tell(x, 0, "1");
-        tell(x, 5, "C");
-        tell(x, 2, "B");
+        x.tell(0, "1");
+        x.tell(5, "C");
+        x.tell(2, "B");
         due.is("a FAULT two letters on", x.layout(5, -1, 0), NO);
     }
 
     private static void over() {
-        RecordNiches x = shapes("(444444)", "(AA(4444))", "(B1)", "(B0)", "(AA(444))");
+        Watched x = Watched.shapes("(444444)", "(AA(4444))", "(B1)", "(B0)", "(AA(444))");
         due.is("SIZE 64", x.layout(1, -1, SIZE), 64);
         due.is("SIZE above 64", x.layout(2, -1, SIZE), STATE);
         due.is("all calls", x.layout(2, -1, PARTS), STATE);
@@ -391,58 +371,58 @@ final class PromisesTest {
         due.is("write", x.write(2, -1, 0), STATE);
         due.is("read", x.read(2, -1, 0), STATE);
         due.is("which", x.which(2, -1, 0), STATE);
-        tell(x, 5, "[B0]");
+        x.tell(5, "[B0]");
         due.is("too large in a VARIANT", x.layout(5, -1, SIZE), STATE);
-        tell(x, 5, "(AA(444)12)");
+        x.tell(5, "(AA(444)12)");
         due.is("64 as told", x.layout(5, -1, SIZE), 64);
-        tell(x, 5, "(AA(444)121)");
+        x.tell(5, "(AA(444)121)");
         due.is("too large as told", x.layout(5, -1, SIZE), STATE);
         x.way(1);
         due.is("not too large packed", x.layout(5, -1, SIZE), 64);
-        RecordNiches z = shapes("(111111)", "(AAAAA)", "(BB(1111))", "(BB(11111))");
+        Watched z = Watched.shapes("(111111)", "(AAAAA)", "(BB(1111))", "(BB(11111))");
         due.is("64 bytes", z.layout(2, -1, SIZE), 64);
         due.is("65 bytes", z.layout(3, -1, SIZE), STATE);
 
-        RecordNiches y = shapes("(00000)", "(AA)", "(BB0)", "(CCC0(0000)(00000))", "(D0)");
+        Watched y = Watched.shapes("(00000)", "(AA)", "(BB0)", "(CCC0(0000)(00000))", "(D0)");
         due.is("13", y.layout(1, -1, PARTS), 13);
         due.is("28", y.layout(2, -1, PARTS), 28);
         due.is("97", y.layout(3, -1, PARTS), 1 + 84 + 1 + 5 + 6);
-        tell(y, 4, "(D00)");
+        y.tell(4, "(D00)");
         due.is("100", y.layout(4, -1, PARTS), 100);
-        tell(y, 4, "(D000)");
+        y.tell(4, "(D000)");
         due.is("101", y.layout(4, -1, PARTS), STATE);
     }
 
     private static void lettersGoneThrough() {
-        RecordNiches x = shapes("1", "(AAAAAA)", "x", "C".repeat(39) + "x");
+        Watched x = Watched.shapes("1", "(AAAAAA)", "x", "C".repeat(39) + "x");
         due.is("few", x.layout(1, -1, SIZE), 6);
         // D: 39 letters, each of which goes through an x of its own, and the last x: 79
         due.is("D", x.layout(3, 0, SIZE), 1);
-        tell(x, 4, "(DADADADADADA)");
+        x.tell(4, "(DADADADADADA)");
         due.is("6 letters, 6 times 79, 6 letters A: 486", x.layout(4, -1, PARTS), 7);
-        tell(x, 5, "(EAAAAA)");
+        x.tell(5, "(EAAAAA)");
         due.is("1 and 486 and 5: 492", x.layout(5, -1, PARTS), 13);
-        tell(x, 5, "(EAAAA" + "(AAAAAA))");
+        x.tell(5, "(EAAAA" + "(AAAAAA))");
         due.is("1 and 486 and 4 and 6: 497", x.layout(5, -1, PARTS), 19);
-        tell(x, 5, "(EAAAA" + "(AAAAACA))");
+        x.tell(5, "(EAAAA" + "(AAAAACA))");
         due.is("1 and 486 and 4 and 5 and 3: 499", x.layout(5, -1, PARTS), 19);
-        tell(x, 6, "F");
+        x.tell(6, "F");
         due.is("500", x.layout(6, -1, PARTS), 19);
-        tell(x, 7, "G");
+        x.tell(7, "G");
         due.is("501", x.layout(7, -1, PARTS), STATE);
-        tell(x, 6, "x");
-        tell(x, 7, "(F)");
+        x.tell(6, "x");
+        x.tell(7, "(F)");
         due.is("499 and 1: 500", x.layout(7, -1, PARTS), 20);
         due.is("x and 499: 500", x.layout(6, 5, PARTS), 19);
-        tell(x, 7, "(Fx)");
+        x.tell(7, "(Fx)");
         due.is("499 and 1 and x, and a letter more", x.layout(7, 0, PARTS), STATE);
         // without any PARTS more, letters upon letters
-        RecordNiches y = shapes("x", "A".repeat(39) + "x", "B".repeat(39) + "x", "C".repeat(39) + "x", "1");
+        Watched y = Watched.shapes("x", "A".repeat(39) + "x", "B".repeat(39) + "x", "C".repeat(39) + "x", "1");
         due.is("79 and x's", y.layout(1, 4, SIZE), 1);
         due.is("too many", y.layout(2, 4, SIZE), STATE);
         due.is("far too many", y.layout(3, 4, SIZE), STATE);
         // an A and its x are 2, a B is 80
-        RecordNiches z = shapes("x", "A".repeat(39) + "x", "B".repeat(6) + "A".repeat(9) + "x", "C0", "0", "CE");
+        Watched z = Watched.shapes("x", "A".repeat(39) + "x", "B".repeat(6) + "A".repeat(9) + "x", "C0", "0", "CE");
         due.is("500 for one TERM", z.layout(3, -1, PARTS), 1);
         due.is("501 for one TERM", z.layout(5, -1, PARTS), STATE);
     }
@@ -450,7 +430,7 @@ final class PromisesTest {
     // ---- 7 to 11
 
     private static void term() {
-        RecordNiches x = shapes("(0(12)4bp[1])", "[e3(1b)0]", "A", "(xAA)", "(e41)", "b");
+        Watched x = Watched.shapes("(0(12)4bp[1])", "[e3(1b)0]", "A", "(xAA)", "(e41)", "b");
         int[] offsets = {0, 0, 4, 8, 12, 16};
         int[] sizes = {0, 4, 4, 1, 4, 1};
         int[] aligns = {1, 2, 4, 1, 4, 1};
@@ -485,7 +465,7 @@ final class PromisesTest {
     }
 
     private static void variant() {
-        RecordNiches x = shapes("[b]", "[0b]", "[b0]", "[44]", "A", "(1b)", "[xb]", "[0[44]0]");
+        Watched x = Watched.shapes("[b]", "[0b]", "[b0]", "[44]", "A", "(1b)", "[xb]", "[0[44]0]");
         due.is("of one", x.variant(0, -1, 0), 0);
         due.is("of one, the HOST", x.variant(0, -1, 1), NONE);
         due.is("HIDDEN", x.variant(1, -1, 0), 1);
@@ -504,13 +484,13 @@ final class PromisesTest {
         due.is("OUTSIDE before NONE", x.variant(5, -1, 2), OUTSIDE);
         due.is("UNKNOWN", x.variant(8, -1, 2), UNKNOWN);
         due.is("UNKNOWN, u", x.variant(1, 0, 0), UNKNOWN);
-        tell(x, 0, "[");
+        x.tell(0, "[");
         due.is("NO", x.variant(4, -1, 0), NO);
         due.is("OUTSIDE before NO", x.variant(4, -1, 2), OUTSIDE);
     }
 
     private static void pattern() {
-        RecordNiches x = shapes("[1(1b)00]", "[0p]", "[444]", "[b]", "(bb)", "[0A0]", "[0x]");
+        Watched x = Watched.shapes("[1(1b)00]", "[0p]", "[444]", "[b]", "(bb)", "[0A0]", "[0x]");
         due.is("the first", x.pattern(0, -1, 0), 2);
         due.is("the HOST", x.pattern(0, -1, 1), NONE);
         due.is("the next", x.pattern(0, -1, 2), 3);
@@ -533,7 +513,7 @@ final class PromisesTest {
     }
 
     private static void least() {
-        RecordNiches x = shapes("(1412)", "(1(121)1)", "b", "[(14)]", "A", "(1x1)", "(0)", "(12141)");
+        Watched x = Watched.shapes("(1412)", "(1(121)1)", "b", "[(14)]", "A", "(1x1)", "(0)", "(12141)");
         due.is("packed", x.least(0, -1), 8);
         due.is("it lies in 12", x.layout(0, -1, SIZE), 12);
         due.is("those in it as they are", x.least(1, -1), 8);
@@ -548,12 +528,12 @@ final class PromisesTest {
         due.is("it is that packed", x.layout(0, -1, SIZE), 8);
         due.is("UNKNOWN", x.least(8, -1), UNKNOWN);
         due.is("UNKNOWN, u", x.least(0, 0), UNKNOWN);
-        tell(x, 0, "(1");
+        x.tell(0, "(1");
         due.is("NO", x.least(4, -1), NO);
     }
 
     private static void idle() {
-        RecordNiches x = shapes("(142e5)", "[0p(p1)]", "[2(4b)01]", "0", "[4(2b)0]", "([04]1)", "[4]", "(1x)");
+        Watched x = Watched.shapes("(142e5)", "[0p(p1)]", "[2(4b)01]", "0", "[4(2b)0]", "([04]1)", "[4]", "(1x)");
         due.is("between fields", x.idle(0, -1), 4);
         due.is("TAGGED", x.idle(1, -1), 6);
         due.is("HIDDEN", x.idle(2, -1), 3);
@@ -562,22 +542,22 @@ final class PromisesTest {
         due.is("behind the last", x.idle(5, -1), 6);
         due.is("none", x.idle(6, -1), 0);
         due.is("by u", x.idle(7, 0), 3 + 4);
-        tell(x, 6, "[(14b)(11)]");
+        x.tell(6, "[(14b)(11)]");
         due.is("HIDDEN, what another fills of the HOST", x.idle(6, -1), 5);
-        tell(x, 6, "[(b4)(11)]");
+        x.tell(6, "[(b4)(11)]");
         due.is("HIDDEN, behind the GAP", x.idle(6, -1), 1);
         x.way(1);
         due.is("packed", x.idle(0, -1), 0);
         due.is("UNKNOWN", x.idle(8, -1), UNKNOWN);
         due.is("UNKNOWN, u", x.idle(7, -1), UNKNOWN);
-        tell(x, 0, "");
+        x.tell(0, "");
         due.is("NO", x.idle(0, -1), NO);
     }
 
     // ---- 12 to 14
 
     private static void give() {
-        RecordNiches x = new RecordNiches();
+        Watched x = new Watched();
         due.is("give(0)", x.give(0), 1);
         due.is("the greatest", x.give(4294967295L), 2);
         due.is("kept whole", x.given(1), 4294967295L);
@@ -593,9 +573,9 @@ final class PromisesTest {
     }
 
     private static void drop() {
-        RecordNiches x = new RecordNiches();
+        Watched x = new Watched();
         due.is("drop of none", x.drop(), 0);
-        list(x, 5, 6, 7);
+        x.list(5, 6, 7);
         due.is("drop", x.drop(), 3);
         due.is("empty", x.given(-1), 0);
         due.is("none there", x.given(0), NONE);
@@ -605,9 +585,9 @@ final class PromisesTest {
     }
 
     private static void given() {
-        RecordNiches x = new RecordNiches();
+        Watched x = new Watched();
         due.is("how many", x.given(-1), 0);
-        list(x, 5, 6);
+        x.list(5, 6);
         due.is("how many", x.given(-1), 2);
         due.is("the first", x.given(0), 5);
         due.is("the last", x.given(1), 6);
@@ -621,9 +601,9 @@ final class PromisesTest {
     // ---- 15 to 17
 
     private static void write() {
-        RecordNiches x = shapes("(1b2e9p4)", "0", "(4x)", "2");
-        fill(x, 255);
-        list(x, 200, 1, 0x1234, 8, 0xFFFFFFFFL, 0x01020304);
+        Watched x = Watched.shapes("(1b2e9p4)", "0", "(4x)", "2");
+        x.fill(255);
+        x.list(200, 1, 0x1234, 8, 0xFFFFFFFFL, 0x01020304);
         due.is("bytes", x.write(0, -1, 8), 16);
         memoryIs("a RECORD", x, 7, 255, 200, 1, 0x34, 0x12, 8, 0, 0, 0, 255, 255, 255, 255, 4, 3, 2, 1);
         memoryIs("behind it", x, 24, 255);
@@ -631,69 +611,69 @@ final class PromisesTest {
         x.drop();
         due.is("NOTHING", x.write(1, -1, 96), 0);
         due.is("NOTHING", x.write(1, -1, 5), 0);
-        list(x, 7, 0x0201);
+        x.list(7, 0x0201);
         due.is("by u", x.write(2, 3, 88), 8);
         memoryIs("by u", x, 87, 255, 7, 0, 0, 0, 1, 2, 0, 0);
         x.way(1);
-        fill(x, 9);
-        list(x, 200, 1, 0x1234, 8, 1, 2);
+        x.fill(9);
+        x.list(200, 1, 0x1234, 8, 1, 2);
         due.is("packed", x.write(0, -1, 0), 16);
         memoryIs("packed", x, 0, 1, 0, 0, 0, 2, 0, 0, 0, 0x34, 0x12, 200, 1, 8, 0, 0, 0, 9);
     }
 
     private static void writeVariants() {
-        RecordNiches x = shapes("[2(4b)01]", "[0p]", "[124]", "[[0b]0(0)]", "[4]", "[2(be32)0]");
-        fill(x, 255);
-        list(x, 0, 0x0102);
+        Watched x = Watched.shapes("[2(4b)01]", "[0p]", "[124]", "[[0b]0(0)]", "[4]", "[2(be32)0]");
+        x.fill(255);
+        x.list(0, 0x0102);
         due.is("another than the HOST", x.write(0, -1, 0), 8);
         memoryIs("another than the HOST", x, 0, 2, 1, 0, 0, 2, 0, 0, 0, 255);
-        list(x, 1, 0x01020304, 1);
+        x.list(1, 0x01020304, 1);
         due.is("the HOST", x.write(0, -1, 0), 8);
         memoryIs("the HOST", x, 0, 4, 3, 2, 1, 1, 0, 0, 0, 255);
-        list(x, 3, 77);
+        x.list(3, 77);
         due.is("the last", x.write(0, -1, 0), 8);
         memoryIs("the last", x, 0, 77, 0, 0, 0, 4, 0, 0, 0, 255);
-        list(x, 0);
+        x.list(0);
         due.is("no PLACE", x.write(1, -1, 4), 4);
         memoryIs("no PLACE", x, 4, 0, 0, 0, 0, 255);
-        list(x, 1, 1);
+        x.list(1, 1);
         due.is("a PLACE", x.write(1, -1, 4), 4);
         memoryIs("a PLACE", x, 4, 1, 0, 0, 0, 255);
-        list(x, 1, 0x0506);
+        x.list(1, 0x0506);
         due.is("TAGGED", x.write(2, -1, 16), 8);
         memoryIs("TAGGED", x, 16, 1, 0, 6, 5, 0, 0, 0, 0, 255);
-        list(x, 0, 0, 0);
+        x.list(0, 0, 0);
         due.is("too many", x.write(3, -1, 24), STATE);
-        list(x, 0, 0);
+        x.list(0, 0);
         due.is("one in another", x.write(3, -1, 24), 1);
         memoryIs("one in another", x, 24, 2, 255);
-        list(x, 0, 1, 1);
+        x.list(0, 1, 1);
         x.write(3, -1, 24);
         memoryIs("the HOST of the HOST", x, 24, 1, 255);
-        list(x, 1);
+        x.list(1);
         x.write(3, -1, 24);
         memoryIs("what is left", x, 24, 3, 255);
-        list(x, 2);
+        x.list(2);
         x.write(3, -1, 24);
         memoryIs("what is left", x, 24, 4, 255);
-        tell(x, 6, "[(14b)0]");
-        list(x, 1);
+        x.tell(6, "[(14b)0]");
+        x.list(1);
         due.is("a PATTERN alone", x.write(6, -1, 48), 12);
         memoryIs("a PATTERN alone", x, 48, 0, 0, 0, 0, 0, 0, 0, 0, 2, 0, 0, 0, 255);
-        list(x, 5);
+        x.list(5);
         due.is("of one TERM has its number too", x.write(4, -1, 28), STATE);
-        list(x, 0, 5);
+        x.list(0, 5);
         due.is("of one TERM", x.write(4, -1, 28), 4);
         memoryIs("of one TERM", x, 28, 5, 0, 0, 0, 255);
-        list(x, 0, 0x0708);
+        x.list(0, 0x0708);
         due.is("behind the GAP", x.write(5, -1, 32), 4);
         memoryIs("behind the GAP", x, 32, 2, 0, 8, 7, 255);
     }
 
     private static void writeRefused() {
-        RecordNiches x = shapes("(4b)", "e5", "p", "1", "2", "[0x]", "4", "[12]");
-        list(x, 1, 1);
-        fill(x, 3);
+        Watched x = Watched.shapes("(4b)", "e5", "p", "1", "2", "[0x]", "4", "[12]");
+        x.list(1, 1);
+        x.fill(3);
         due.is("ALIGN", x.write(0, -1, 2), OUTSIDE);
         due.is("not within", x.write(0, -1, 92), OUTSIDE);
         due.is("the last place", x.write(0, -1, 88), 8);
@@ -703,65 +683,67 @@ final class PromisesTest {
         due.is("UNKNOWN", x.write(8, -1, 0), UNKNOWN);
         due.is("UNKNOWN, u", x.write(0, 1, 0), UNKNOWN);
         due.is("UNKNOWN, no u", x.write(5, -1, 0), UNKNOWN);
-        list(x, 1, 2);
+        x.list(1, 2);
         due.is("no TRUTH", x.write(0, -1, 0), STATE);
         due.is("OUTSIDE before STATE", x.write(0, -1, 1), OUTSIDE);
-        list(x, 1);
+        x.list(1);
         due.is("too few", x.write(0, -1, 0), STATE);
-        list(x, 1, 1, 1);
+        x.list(1, 1, 1);
         due.is("too many", x.write(0, -1, 0), STATE);
-        list(x);
+        x.list();
         due.is("none", x.write(0, -1, 0), STATE);
         long[][] fits = {{1, 4}, {2, 1}, {2, 0xFFFFFFFFL}, {3, 255}, {4, 65535}, {6, 0xFFFFFFFFL}, {6, 0}};
         for (long[] f : fits) {
-            list(x, f[1]);
+            x.list(f[1]);
             due.holds(f[1] + " fits " + f[0], x.write((int) f[0], -1, 40) > 0);
         }
-        fill(x, 3);
+        x.fill(3);
         long[][] fitsNot = {{1, 5}, {2, 0}, {3, 256}, {4, 65536}};
         for (long[] f : fitsNot) {
-            list(x, f[1]);
+            x.list(f[1]);
             due.is(f[1] + " fits " + f[0] + " not", x.write((int) f[0], -1, 40), STATE);
         }
-        list(x, 2, 0);
+        x.list(2, 0);
         due.is("no such TERM", x.write(7, -1, 40), STATE);
-        list(x, 4294967295L, 0);
+        x.list(4294967295L, 0);
         due.is("no such TERM", x.write(7, -1, 40), STATE);
-        list(x, 2);
+        x.list(2);
         due.is("no such TERM, without a VALUE", x.write(7, -1, 40), STATE);
-        list(x, 0);
+        x.list(0);
         due.is("a number without its VALUE", x.write(7, -1, 40), STATE);
         memoryIs("nothing changed", x, 40, 3, 3, 3, 3);
-        tell(x, 0, "(4");
+        x.tell(0, "(4");
         due.is("NO", x.write(0, -1, 0), NO);
-        RecordNiches y = shapes("(111111)", "(AAAAAA)", "(BAAAA)", "(C1)");
-        list(y, new long[60]);
+        Watched y = Watched.shapes("(111111)", "(AAAAAA)", "(BAAAA)", "(C1)");
+        y.list(new long[60]);
         due.is("60 numbers", y.write(2, -1, 0), 60);
         due.is("60 where 61 are asked for", y.write(3, -1, 0), STATE);
     }
 
     private static void read() {
-        RecordNiches x = shapes("(1b2e9p4)", "[2(4b)01]", "[0p]", "[124]", "[[0b]0(0)]", "[4]", "0", "(xx)");
+        String[] texts = {"(1b2e9p4)", "[2(4b)01]", "[0p]", "[124]", "[[0b]0(0)]", "[4]", "0", "(xx)"};
         long[][] values = {{0, 255, 1, 65535, 8, 0xFFFFFFFFL, 0xFFFFFFFFL}, {0, 0, 0, 0, 0, 1, 0},
             {1, 0, 513}, {1, 1, 0xFFFFFFFFL, 1}, {1, 1, 0, 0}, {1, 2}, {1, 3, 9}, {2, 0}, {2, 1, 1}, {2, 1, 0xFEDCBA98L},
             {3, 0, 5}, {3, 1, 600}, {3, 2, 0xFFFFFFFFL}, {4, 0, 0}, {4, 0, 1, 0}, {4, 0, 1, 1}, {4, 1}, {4, 2}, {5, 0, 8}, {6}};
         for (long[] v : values) {
             long[] numbers = java.util.Arrays.copyOfRange(v, 1, v.length);
             int shape = (int) v[0];
-            fill(x, 170);
-            list(x, numbers);
-            due.holds("written", x.write(shape, -1, 16) >= 0);
-            list(x, 99, 98, 97);
-            due.is("read of " + shape, x.read(shape, -1, 16), numbers.length);
-            listIs("read of " + shape, x, numbers);
+            Watched y = Watched.shapes(texts);
+            y.fill(170);
+            y.list(numbers);
+            due.holds("written", y.write(shape, -1, 16) >= 0);
+            y.list(99, 98, 97);
+            due.is("read of " + shape, y.read(shape, -1, 16), numbers.length);
+            listIs("read of " + shape, y, numbers);
         }
-        fill(x, 1);
+        Watched x = Watched.shapes(texts);
+        x.fill(1);
         due.is("by u", x.read(7, 0, 0), 12);
         listIs("by u", x, 1, 1, 257, 1, 0x01010101, 0x01010101, 1, 1, 257, 1, 0x01010101, 0x01010101);
         // bytes that are of nothing are not looked at
         x.poke(21, 77);
         due.is("idle bytes", x.read(0, -1, 16), 6);
-        fill(x, 200);
+        x.fill(200);
         x.poke(4, 1);
         due.is("no PATTERN in the GAP: the HOST", x.read(1, -1, 0), 3);
         listIs("the HOST", x, 1, 0xC8C8C8C8L, 1);
@@ -770,15 +752,15 @@ final class PromisesTest {
     }
 
     private static void readRefused() {
-        RecordNiches x = shapes("(4b)", "e5", "p", "[12]", "[2(4b)01]", "([4][4][4][4][4][4])", "([1][1][1][1][1][1])", "(GGGGGG)");
-        list(x, 42);
+        Watched x = Watched.shapes("(4b)", "e5", "p", "[12]", "[2(4b)01]", "([4][4][4][4][4][4])", "([1][1][1][1][1][1])", "(GGGGGG)");
+        x.list(42);
         due.is("ALIGN", x.read(0, -1, 2), OUTSIDE);
         due.is("not within", x.read(0, -1, 92), OUTSIDE);
         due.is("below", x.read(0, -1, -8), OUTSIDE);
         due.is("MIN", x.read(0, -1, MIN), OUTSIDE);
         due.is("96", x.read(1, -1, 96), OUTSIDE);
         due.is("95", x.read(1, -1, 95), 1);
-        list(x, 42);
+        x.list(42);
         due.is("UNKNOWN", x.read(-1, -1, 0), UNKNOWN);
         due.is("UNKNOWN, u", x.read(0, 1, 0), UNKNOWN);
         x.poke(4, 2);
@@ -788,28 +770,28 @@ final class PromisesTest {
         due.is("no PLACE", x.read(2, -1, 8), STATE);
         x.poke(11, 1);
         due.is("a PLACE by its last byte", x.read(2, -1, 8), 1);
-        list(x, 42);
+        x.list(42);
         x.poke(12, 2);
         due.is("no byte in front", x.read(3, -1, 12), STATE);
         x.poke(20, 5);
         due.is("the HOST by no PATTERN, but no VALUE of it", x.read(4, -1, 16), STATE);
         due.is("FULL", x.read(7, -1, 0), FULL);
-        tell(x, 7, "(GGGGG)");
+        x.tell(7, "(GGGGG)");
         listIs("nothing changed", x, 42);
         due.is("60", x.read(7, -1, 0), 60);
-        list(x, 42);
-        tell(x, 7, "(GGGGGb)");
+        x.list(42);
+        x.tell(7, "(GGGGGb)");
         x.poke(30, 1);
         due.is("61", x.read(7, -1, 0), FULL);
         x.poke(30, 2);
         due.is("STATE before FULL", x.read(7, -1, 0), STATE);
         listIs("nothing changed", x, 42);
-        tell(x, 7, "(G");
+        x.tell(7, "(G");
         due.is("NO", x.read(7, -1, 0), NO);
     }
 
     private static void which() {
-        RecordNiches x = shapes("[2(4b)01]", "[0p]", "[124]", "[4]", "(1)", "A", "[0x]", "[[0b]0]");
+        Watched x = Watched.shapes("[2(4b)01]", "[0p]", "[124]", "[4]", "(1)", "A", "[0x]", "[[0b]0]");
         due.is("the HOST", x.which(0, -1, 0), 1);
         int[] lies = {1, 1, 0, 2, 3, 1};
         for (int v = 0; v < lies.length; v++) {
@@ -841,9 +823,9 @@ final class PromisesTest {
         due.is("below", x.which(0, -1, -4), OUTSIDE);
         due.is("UNKNOWN", x.which(8, -1, 0), UNKNOWN);
         due.is("UNKNOWN, u", x.which(6, -1, 0), UNKNOWN);
-        tell(x, 0, "[");
+        x.tell(0, "[");
         due.is("NO", x.which(5, -1, 0), NO);
-        list(x, 1);
+        x.list(1);
         x.which(3, -1, 16);
         listIs("the LIST stays", x, 1);
     }
@@ -851,7 +833,7 @@ final class PromisesTest {
     // ---- 18 to 22
 
     private static void poke() {
-        RecordNiches x = new RecordNiches();
+        Watched x = new Watched();
         due.is("the first", x.poke(0, 255), 0);
         due.is("it was", x.poke(0, 0), 255);
         due.is("it was", x.poke(0, 1), 0);
@@ -866,7 +848,7 @@ final class PromisesTest {
     }
 
     private static void peek() {
-        RecordNiches x = new RecordNiches();
+        Watched x = new Watched();
         for (int p = 0; p < 96; p++) x.poke(p, p + 100);
         for (int p = 0; p < 96; p++) due.is("peek", x.peek(p), p + 100);
         due.is("below", x.peek(-1), OUTSIDE);
@@ -875,7 +857,7 @@ final class PromisesTest {
     }
 
     private static void image() {
-        RecordNiches x = new RecordNiches();
+        Watched x = new Watched();
         due.is("image(0)", x.image(0), 1);
         due.is("image(1)", x.image(1), 1);
         due.is("image(-1)", x.image(-1), OUTSIDE);
@@ -890,21 +872,21 @@ final class PromisesTest {
     }
 
     private static void restore() {
-        RecordNiches x = shapes("(1x)", "b", "", "", "", "", "", "0");
+        Watched x = Watched.shapes("(1x)", "b", "", "", "", "", "", "0");
         due.is("not kept", x.restore(0), STATE);
         due.is("-1", x.restore(-1), OUTSIDE);
         due.is("2", x.restore(2), OUTSIDE);
         x.way(1);
-        list(x, 5, 6);
+        x.list(5, 6);
         x.poke(0, 8);
         x.poke(95, 9);
         x.image(1);
         due.is("not kept yet", x.restore(0), STATE);
-        tell(x, 0, "4");
-        tell(x, 7, "(pp)");
+        x.tell(0, "4");
+        x.tell(7, "(pp)");
         x.say(1, 'b');
         x.way(0);
-        list(x, 1, 2, 3);
+        x.list(1, 2, 3);
         x.poke(0, 1);
         x.poke(95, 1);
         for (int times = 0; times < 2; times++) {
@@ -926,9 +908,9 @@ final class PromisesTest {
     }
 
     private static void told() {
-        RecordNiches x = shapes("(1x)", "b", "", "", "", "", "", "e2");
+        Watched x = Watched.shapes("(1x)", "b", "", "", "", "", "", "e2");
         x.way(1);
-        list(x, 9, 9, 9);
+        x.list(9, 9, 9);
         due.is("the WAY", x.told(0), 1);
         due.is("the LIST", x.told(1), 3);
         int[] signs = {4, 1, 0, 0, 0, 0, 0, 2};

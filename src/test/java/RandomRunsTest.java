@@ -8,7 +8,7 @@ final class RandomRunsTest {
     private final Due due;
     private final int run;
     private final Random random;
-    private final RecordNiches x = new RecordNiches();
+    private final Watched x = new Watched();
     private final Model model = new Model();
     private int calls;
 
