@@ -21,6 +21,7 @@ final class LayoutBoundsTest {
         sizeOfHidden();
         tagged();
         parts();
+        partsBehindALetter();
         hundredParts();
         sizeAbove64();
         letters500();
@@ -365,6 +366,27 @@ final class LayoutBoundsTest {
         due.is("PARTS of one behind two letters", x.tell(7, "EE1").layout(7, -1, PARTS), 1 + 3 + 3);
         due.is("PARTS of letters behind two letters", x.tell(7, "EEB").layout(7, -1, PARTS), 1 + 7 + 7);
         due.is("PARTS of RECORDS and VARIANTS of one", x.tell(7, "(([([1])]))").layout(7, -1, PARTS), 6);
+    }
+
+    /** "a TERM behind a letter counts as often as an x stands for it, not by itself" */
+    private static void partsBehindALetter() {
+        // what is behind A and B is of 33 PARTS
+        Watched x = Watched.shapes("(xxx)", "(xxx0)", "(000000)", "A(CCCC(0)(0))", "B(CCCC(0)(0))", "(x)", "F(D)", "F(D0)");
+        due.is("PARTS 33", x.tell(7, "(CCCC(0)(0))").layout(7, -1, PARTS), 33);
+        due.is("three times, and the RECORD: 100", x.layout(3, -1, PARTS), 100);
+        due.is("three times, the RECORD, and 0: 101", x.layout(4, -1, PARTS), STATE);
+        due.is("SIZE of 100", x.layout(3, -1, SIZE), 0);
+        due.is("SIZE of 101", x.layout(4, -1, SIZE), STATE);
+        due.is("behind one letter more: 102", x.layout(6, -1, PARTS), STATE);
+        x.tell(3, "A(CCCC(0)0)");
+        due.is("three times 32, and the RECORD: 97", x.layout(3, -1, PARTS), 97);
+        due.is("behind one letter more: 99", x.layout(6, -1, PARTS), 99);
+        due.is("and 0: 100", x.tell(7, "F(D0)").layout(7, -1, PARTS), 100);
+        due.is("and 00: 101", x.tell(7, "F(D00)").layout(7, -1, PARTS), STATE);
+        // an x in what is behind a letter is that of the text that it stands in
+        due.is("x behind a letter", x.tell(7, "A(x0)").layout(7, 2, PARTS), 1 + 3 * (2 + 7));
+        due.is("x behind a letter, and beside it", x.tell(7, "(xAx)").layout(7, 2, PARTS), 1 + 7 + 1 + 3 * 7);
+        due.is("x behind two letters", x.tell(7, "AAx").layout(7, 2, PARTS), 1 + 3 * (1 + 3 * 7));
     }
 
     // ---- OVER
